@@ -1,8 +1,17 @@
+import java.util.function.IntSupplier;
+
 /** Promises 17 to 21, 25, 30 to 34, 39 to 43, 45, 46: what comes, all set as it is. */
 public final class MotesAheadTest {
   private static final int BAD = -2;
   private static final int STUCK = -5;
   private static final int[] WRONG_TIMES = {-1, 25, Integer.MIN_VALUE, Integer.MAX_VALUE};
+  /**
+   * In an even column it goes up and down between two rows, and the beam is never there; when the
+   * last hour has come, it stays down, in the beam, behind 24 steps.
+   */
+  private static final String LATE_LIT = "mote 0 1 52;open 0;warm 5;hour 976";
+  /** Up and down between 30 and 20; when the last hour has come, it goes up twice: to 10. */
+  private static final String LATE_LEAD = "mote 3 1 30;open 2;fan 1;hour 977";
   private static final Check CHECK = new Check();
 
   public static void main(String[] args) {
@@ -129,6 +138,7 @@ public final class MotesAheadTest {
     goes("mote 0 1 20;open 3;fan 4", 20);
     goes("mote 0 1 2;open 2;fan 3", 12);
     goes("side 7;mote 0 1 55;open 0;open 3", 66, 66);
+    goes("mote 0 1 45;fan 3", 55, 55);
   }
 
   private static void warmth19() {
@@ -136,6 +146,7 @@ public final class MotesAheadTest {
     goes("mote 0 1 42;warm 4", 42, 42);
     goes("mote 0 1 42;warm 9;hour 1", 42, 32);
     goes("mote 0 1 2;warm 5", 2, 2);
+    goes("mote 0 1 10;warm 5", 0);
     goes("mote 0 1 2;warm 5;open 0", 2, 12);
     goes("mote 0 1 52;warm 5;open 0", 42, 52, 42);
   }
@@ -145,6 +156,7 @@ public final class MotesAheadTest {
     goes("mote 1 1 22;open 3;hour 1", 23, 23, 24);
     goes("mote 3 1 2;open 3;warm 9", 12, 23, 33, 44, 54, 55);
     goes("mote 3 1 52;fan 1", 52, 52, 52);
+    goes("mote 3 1 45", 55, 55);
     goes("mote 3 1 52;hour 1;open 2;fan 1", 42, 52);
   }
 
@@ -160,6 +172,7 @@ public final class MotesAheadTest {
     goes("mote 4 1 20", 21, 22, 23);
     goes("mote 4 1 25", 24, 23, 24);
     goes("mote 4 1 20;open 0", 31);
+    goes("mote 4 1 45", 44);
     // Behind the push it stands where the beam was: it stays.
     goes("mote 4 1 23;open 1", 22);
     goes("mote 4 1 32;warm 5", 22);
@@ -227,6 +240,12 @@ public final class MotesAheadTest {
     CHECK.due("best of none", z.when(1), 0);
     CHECK.due("none", z.when(2), 0);
     CHECK.due("NONE is not refused", z.status(12), 0);
+    MotesHaveASeat late = hall(LATE_LIT);
+    CHECK.due("first at the last", late.when(0), 24);
+    CHECK.due("best at the last", late.when(1), 24);
+    late.tell(2, 975);
+    late.put(0, 42);
+    CHECK.due("too late", late.when(0), -1);
     CHECK.refused(x, "when(3)", BAD, () -> x.when(3));
     CHECK.refused(x, "when(-1)", BAD, () -> x.when(-1));
   }
@@ -240,8 +259,17 @@ public final class MotesAheadTest {
     CHECK.due("spread behind 1", x.centre(1, 2), 9);
     MotesHaveASeat two = hall("mote 0 1 5;mote 0 1 50");
     CHECK.due("spread across", two.centre(0, 2), 10);
+    CHECK.due("rows", two.centre(0, 0), 2500);
+    int[][] spreads = {{10, 5, 6}, {45, 10, 8}, {5, 54, 6}, {31, 45, 5}, {33, 34, 1}};
+    for (int[] spread : spreads) {
+      two.put(0, spread[0]);
+      two.put(1, spread[1]);
+      CHECK.due("spread", two.centre(0, 2), spread[2]);
+      CHECK.due("rows", two.centre(0, 0), 500 * (spread[0] / 10 + spread[1] / 10));
+    }
     MotesHaveASeat one = hall("mote 0 1 55");
     CHECK.due("spread of one", one.centre(0, 2), 0);
+    CHECK.due("rows of one", one.centre(0, 0), 5000);
     MotesHaveASeat none = new MotesHaveASeat();
     CHECK.due("spread of none", none.centre(24, 2), 0);
     CHECK.refused(none, "no motes", STUCK, () -> none.centre(0, 0));
@@ -276,6 +304,10 @@ public final class MotesAheadTest {
     x.mote(0, 1, 33);
     CHECK.due("most", x.thick(0), 33);
     CHECK.due("most behind 2", x.thick(2), 35);
+    CHECK.due("of several the first, in another order",
+        hall("mote 0 1 11;mote 0 1 33;mote 0 1 11;mote 0 1 33").thick(0), 11);
+    CHECK.due("most, though not first",
+        hall("mote 0 1 33;mote 0 1 33;mote 0 1 11").thick(0), 33);
     CHECK.due("one alone", hall("mote 0 1 45").thick(0), 45);
     for (int t : WRONG_TIMES) {
       CHECK.refused(x, "t " + t, BAD, () -> x.thick(t));
@@ -288,6 +320,8 @@ public final class MotesAheadTest {
     CHECK.due("behind 5", x.arrives(1, 25), 5);
     CHECK.due("never", x.arrives(1, 30), -1);
     CHECK.due("the other one", x.arrives(0, 2), 2);
+    CHECK.due("at the last", hall(LATE_LEAD).arrives(0, 10), 24);
+    CHECK.due("too late", hall("mote 3 1 20;open 2;fan 1;hour 976").arrives(0, 10), -1);
     CHECK.due("NONE is not refused", x.status(12), 0);
     CHECK.refused(x, "mote 2", BAD, () -> x.arrives(2, 0));
     CHECK.refused(x, "mote -1", BAD, () -> x.arrives(-1, 0));
@@ -300,6 +334,8 @@ public final class MotesAheadTest {
     CHECK.due("now", x.lights(0), 0);
     CHECK.due("behind 4", x.lights(1), 4);
     CHECK.due("behind 5", x.lights(2), 5);
+    CHECK.due("at the last", hall(LATE_LIT).lights(0), 24);
+    CHECK.due("too late", hall("mote 0 1 42;open 0;warm 5;hour 975").lights(0), -1);
     x.tell(2, 999);
     CHECK.due("never", x.lights(0), -1);
     CHECK.due("NONE is not refused", x.status(12), 0);
@@ -313,6 +349,8 @@ public final class MotesAheadTest {
     CHECK.due("the other way", x.meet(1, 0), 5);
     CHECK.due("now", x.meet(0, 2), 0);
     CHECK.due("never", x.meet(0, 3), -1);
+    // The other one goes between 10 and 20, a row ahead, until the wall keeps it in 10.
+    CHECK.due("at the last", hall(LATE_LEAD + ";mote 3 1 10").meet(0, 1), 24);
     CHECK.due("NONE is not refused", x.status(12), 0);
     CHECK.refused(x, "the same", BAD, () -> x.meet(1, 1));
     CHECK.refused(x, "mote 4", BAD, () -> x.meet(0, 4));
@@ -351,8 +389,9 @@ public final class MotesAheadTest {
     MotesHaveASeat x = hall("mote 0 1 22;mote 1 1 55;open 0");
     CHECK.due("never", x.round(), -1);
     CHECK.due("NONE is not refused", x.status(12), 0);
-    // Sparks sway after the beam: from 22 at hour 1 it goes 23 and on, and comes back once.
-    CHECK.due("all of them", hall("mote 0 1 52;mote 4 1 33;open 0;warm 5").round(), -1);
+    // One is back behind two steps, but the other one has gone to the bottom for good.
+    CHECK.due("all of them", hall("mote 0 1 52;mote 5 1 33;open 0;warm 5").round(), -1);
+    CHECK.due("at the last", hall("mote 4 1 41;open 3;fan 4;hour 977").round(), 24);
   }
 
   private static void way42() {
@@ -361,6 +400,7 @@ public final class MotesAheadTest {
     CHECK.due("one", x.way(1), 1);
     CHECK.due("heavy: six too", x.way(2), 6);
     CHECK.due("to and fro", hall("mote 0 1 52;open 0;warm 5").way(0), 2);
+    CHECK.due("the third one at the last", hall(LATE_LEAD).way(0), 3);
     CHECK.due("beyond 64", hall("side 7;mote 0 1 60;open 3").way(0), 7);
     CHECK.refused(x, "mote 3", BAD, () -> x.way(3));
     CHECK.refused(x, "mote -1", BAD, () -> x.way(-1));
@@ -374,6 +414,7 @@ public final class MotesAheadTest {
     CHECK.due("behind 2", x.walled(2), 7);
     x.side(7);
     CHECK.due("of seven", x.walled(0), 4);
+    CHECK.due("54 of seven", hall("side 7;mote 0 1 54;mote 0 1 45").walled(0), 0);
     CHECK.due("of none", new MotesHaveASeat().walled(24), 0);
     for (int t : WRONG_TIMES) {
       CHECK.refused(x, "t " + t, BAD, () -> x.walled(t));
@@ -399,27 +440,28 @@ public final class MotesAheadTest {
     CHECK.refused(x, "kind -1", BAD, () -> x.ofKind(-1));
   }
 
+  /** A full hall; each question is asked behind each other one, and answers as it did at first. */
   private static void nothingIsChanged() {
-    MotesHaveASeat x = hall("mote 0 1 22;mote 3 3 2;mote 4 2 10;open 0;open 3;fan 1;warm 6");
+    MotesHaveASeat x = hall("mote 0 1 22;mote 3 3 2;mote 4 2 10;open 0;open 3;fan 1;warm 6;"
+        + "mote 2 4 43;mote 5 5 20;mote 1 9 31;mote 0 2 54;mote 3 7 40;mote 4 6 25;mote 2 8 1");
     String ahead = Check.seen(x);
-    x.moteOf(0, 4);
-    x.lit(0, 500);
-    x.where(1, 24);
-    x.votes(24, 0);
-    x.when(2);
-    x.centre(24, 0);
-    x.crowd(0, 24);
-    x.thick(24);
-    x.arrives(0, 55);
-    x.lights(1);
-    x.meet(0, 1);
-    x.runs(24);
-    x.together(1, 2);
-    x.round();
-    x.way(1);
-    x.walled(24);
-    x.stirred();
-    x.ofKind(3);
-    CHECK.that("nothing is changed", ahead.equals(Check.seen(x)));
+    IntSupplier[] questions = {() -> x.moteOf(0, 4), () -> x.lit(0, 500), () -> x.where(1, 24),
+        () -> x.votes(24, 0), () -> x.votes(3, 1), () -> x.votes(5, 2), () -> x.when(0),
+        () -> x.when(1), () -> x.when(2), () -> x.centre(24, 0), () -> x.centre(2, 1),
+        () -> x.centre(3, 2), () -> x.crowd(55, 9), () -> x.thick(4), () -> x.arrives(1, 52),
+        () -> x.lights(1), () -> x.meet(0, 1), () -> x.runs(24), () -> x.together(1, 2), x::round,
+        () -> x.way(1), () -> x.walled(24), x::stirred, () -> x.ofKind(3)};
+    int[] first = new int[questions.length];
+    for (int i = 0; i < questions.length; i++) {
+      first[i] = questions[i].getAsInt();
+      CHECK.that("question " + i + " is answered", first[i] >= -1);
+      CHECK.that("nothing is changed by " + i, ahead.equals(Check.seen(x)));
+    }
+    for (int i = 0; i < questions.length; i++) {
+      for (int j = 0; j < questions.length; j++) {
+        questions[i].getAsInt();
+        CHECK.due("question " + j + " behind " + i, questions[j].getAsInt(), first[j]);
+      }
+    }
   }
 }

@@ -124,6 +124,13 @@ public final class MotesHallTest {
     CHECK.due("wipe", x.wipe(), 2);
     CHECK.due("size", x.status(9), 0);
     CHECK.due("what was fed is gone", Check.read(x, "fan 1"), 1);
+    x.feed(' ');
+    for (char c : "fan 123;;".toCharArray()) {
+      x.feed(c);
+    }
+    x.wipe();
+    CHECK.due("all of it", Check.read(x, "fan 2"), 1);
+    CHECK.due("the fan", x.status(3), 2);
   }
 
   /** On a new object: how many statements, or the fault with a minus. */
@@ -149,7 +156,8 @@ public final class MotesHallTest {
         {"fan 1 2", -6}, {"fan 1 fan 2", -6}, {"fan 1fan 2", -5}, {"fan ;", -4}, {"fan fan", -4},
         {"fan 001", 1}, {"fan 0001", -4}, {"fan 0000000000000000000000000000", -4},
         {"fan 99999999999", -4}, {"fan -1", -4}, {"fan A", -4}, {"fan 1A", -5}, {"Fan 1", 0},
-        {"fans 1", 0}, {"fa 1", 0}, {"fanwarm 1", 0}, {"fan\t1", -3}, {"fan 1\n", -5},
+        {"fans 1", 0}, {"fa 1", 0}, {"fanwarm 1", 0}, {"fanz 1", 0}, {"fana 1", 0}, {"fan{1", -3}, {"fan`1", -3}, {"fan/1", -3},
+        {"fan:1", -3}, {"xan 1", 0}, {"fax 1", 0}, {"fan 1z", -5}, {"fan 1 a", -6}, {"fan\t1", -3}, {"fan 1\n", -5},
         {"\u00ff", 0}, {"fan 1;\u0000", -6}, {"fan 4", 1}, {"fan 5", -4}, {"fan 1;x", -6},
         {"side 6", 1}, {"side 7", 1}, {"side 8", -5}, {"side 5", -5}, {"side 3", -5},
         {"side 7;side 7", 2}, {"side 7;side 6", -12}, {"side 007", 1},
@@ -172,6 +180,7 @@ public final class MotesHallTest {
     answers(longest.toString(), 50);
     answers(longest.append(' ').toString(), 50);
     answers(longest.substring(0, 249) + ";", -250);
+    answers(" " + longest.substring(0, 249), 50);
   }
 
   private static void hallComes16() {

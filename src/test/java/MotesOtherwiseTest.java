@@ -99,7 +99,8 @@ public final class MotesOtherwiseTest {
       CHECK.refused(x, "t ahead of other", BAD, () -> x.which(1, t, 0));
     }
     CHECK.refused(x, "what ahead of nothing", BAD, () -> x.which(0, 0, 2));
-    CHECK.refused(x, "what -1", BAD, () -> x.which(2, 0, -1));
+    x.row(3, 0, 2);
+    CHECK.refused(x, "what -1", BAD, () -> x.which(3, 0, -1));
     CHECK.refused(x, "shelf 8", BAD, () -> x.which(8, 0, 0));
     CHECK.refused(x, "shelf -1", BAD, () -> x.which(-1, 0, 0));
     CHECK.refused(x, "a mote", OTHER, () -> x.which(1, 0, 0));
@@ -154,6 +155,11 @@ public final class MotesOtherwiseTest {
     CHECK.due("now", x.whips(0, 0), 3);
     x.tell(0, 4);
     CHECK.due("whatever the fan is now", x.whips(1, 1), 1);
+    // The fan left keeps 50 in its corner, and lit, unless door 2 is turned: then two others are.
+    MotesHaveASeat left = hall("mote 5 1 23;mote 5 2 22;mote 0 3 45;mote 0 4 50");
+    CHECK.due("value by the last fan", left.whips(1, 0), 4);
+    CHECK.due("the last fan", left.whips(1, 1), 4);
+    CHECK.due("its answer", left.answer(1, 4), 0);
     for (int t : WRONG_TIMES) {
       CHECK.refused(x, "t " + t, BAD, () -> x.whips(t, 0));
     }
@@ -167,10 +173,8 @@ public final class MotesOtherwiseTest {
     CHECK.due("all alike", x.answer(0, 1), 0);
     CHECK.due("none turned is least", hall("mote 0 1 22;mote 0 5 23;mote 0 5 32").answer(1, 1), 4);
     CHECK.due("doors 0 and 1 are least", hall("mote 0 5 22;mote 0 1 23;mote 0 5 32").answer(1, 1), 0);
-    // Door 3 is open: turned, it is shut.
-    CHECK.due("shut it", hall("mote 0 5 22;open 3").answer(1, 0), 0);
-    CHECK.due("shut it, of one that stands at walls",
-        hall("mote 5 5 0;open 3;open 2").answer(1, 0), 2 + 1);
+    // Right to 01 by door 3, which is open: turned, it is shut. The walls undo the others.
+    CHECK.due("shut door 3", hall("mote 5 5 0;open 3;open 2").answer(1, 0), 3);
     for (int t : WRONG_TIMES) {
       CHECK.refused(x, "t " + t, BAD, () -> x.answer(t, 0));
     }
@@ -269,6 +273,7 @@ public final class MotesOtherwiseTest {
     CHECK.due("behind 1 by two", hall("mote 0 1 33;open 3;open 0").bestCell(0, 1), 1);
     CHECK.due("it weighs nothing", hall("mote 0 0 33").bestCell(0, 1), 0);
     CHECK.due("lead", hall("mote 3 1 33").bestCell(0, 1), 2);
+    CHECK.due("nothing comes to 00", hall("mote 0 1 33;open 3;hour 5").bestCell(0, 1), 10);
     CHECK.due("of seven", hall("side 7;mote 0 1 33;open 1;hour 4;beam 2").bestCell(0, 0), 6);
     // All are blown to the bottom right.
     CHECK.due("behind 24", hall("mote 0 1 33;open 0;open 3").bestCell(0, 24), 0);
@@ -304,7 +309,8 @@ public final class MotesOtherwiseTest {
   }
 
   private static void nothingIsChanged() {
-    MotesHaveASeat x = hall("mote 0 1 22;mote 3 3 2;mote 4 2 10;open 0;open 3;fan 1;warm 6");
+    MotesHaveASeat x = hall("mote 0 1 22;mote 3 3 2;mote 4 2 10;open 0;open 3;fan 1;warm 6;"
+        + "mote 2 4 43;mote 5 5 20;mote 1 9 31;mote 0 2 54;mote 3 7 40;mote 4 6 25;mote 2 8 1");
     x.row(0, 0, 40);
     String ahead = Check.seen(x);
     x.setting(24, 0);

@@ -259,13 +259,14 @@ public final class MotesTruthTest {
 
   private static void backShelves54() {
     MotesHaveASeat x = hall("mote 0 1 0;mote 1 2 11");
-    x.show(0, 1);
+    x.show(6, 1);
     x.image();
     x.mote(2, 3, 22);
+    x.show(0, 2);
+    x.show(6, -1);
     x.show(1, 2);
     x.show(2, 0);
     x.show(3, 1);
-    x.show(0, -1);
     x.row(4, 3, 4);
     x.put(0, 55);
     CHECK.due("back", x.back(), 1);
