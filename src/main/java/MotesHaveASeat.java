@@ -150,6 +150,7 @@ public final class MotesHaveASeat {
     if (!isUnder(own, kind)) {
       return refuse(OTHER);
     }
+    // Only what it is taken for decides what is asked; how it goes is its own kind's.
     return kind == MOTE ? now.weightOf[shelf.number] : now.next(own, now.cellOf[shelf.number]);
   }
 

@@ -401,6 +401,7 @@ public final class MotesAheadTest {
     CHECK.due("heavy: six too", x.way(2), 6);
     CHECK.due("to and fro", hall("mote 0 1 52;open 0;warm 5").way(0), 2);
     CHECK.due("the third one at the last", hall(LATE_LEAD).way(0), 3);
+    CHECK.due("the third one too late", hall("mote 3 1 20;open 2;fan 1;hour 976").way(0), 2);
     CHECK.due("beyond 64", hall("side 7;mote 0 1 60;open 3").way(0), 7);
     CHECK.refused(x, "mote 3", BAD, () -> x.way(3));
     CHECK.refused(x, "mote -1", BAD, () -> x.way(-1));
