@@ -192,7 +192,8 @@ final class HallEdges {
         "read('fan 1 23')=FAULT6", "read('fan;fan;fan')=FAULT3", "read('mote 0 walrus 0')=FAULT7",
         "read('fans 1')=FAULT0", "read('fa 1')=FAULT0", "read('open')=FAULT4",
         "read('ean 1')=FAULT0", "read('gan 1')=FAULT0", "read('fbn 1')=FAULT0",
-        "read('fam 1')=FAULT0", "read('fao 1')=FAULT0", "read('fan 1;shup 1')=FAULT6");
+        "read('fam 1')=FAULT0", "read('fao 1')=FAULT0", "read('fan 1;shup 1')=FAULT6",
+        "read('" + "fan0;".repeat(40) + "opex 1')=FAULT200");
     e.edge("also a NUMBER that may not be", "read('fan 999')=FAULT4", "read('fan  5;x')=FAULT5",
         "read('mote 5 9 59')=FAULT9", "read('fan 1;chance 13')=FAULT13",
         "read('mote 9 99 99')=FAULT5");

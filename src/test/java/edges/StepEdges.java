@@ -95,12 +95,12 @@ final class StepEdges {
     e.edge("else as MOTE", goes("mote 2 1 42;warm 5", 32), goes("mote 2 1 42;warm 4", 42),
         goes("mote 2 1 52;open 0", 52), goes("mote 2 1 21;open 0;fan 2", 32),
         goes("mote 2 1 42;warm 5;hour 1", 42));
-    e.edge("SPARK: as GOLD", goes("mote 4 1 22;open 0;fan 2;warm 9", 22),
+    e.edge("SPARK: as GOLD", goes("mote 4 1 22;open 0", 22), goes("mote 4 1 22;warm 5", 22),
+        goes("mote 4 1 22;open 0;fan 2;warm 9", 22),
         goes("mote 4 1 20;open 0", 31), goes("mote 4 1 3;hour 999;fan 2", 3, 3),
         goes("mote 4 1 20;open 0;fan 2;warm 5", 22));
-    e.edge("then, if it"
-            + " wasn't in THE BEAM, a CELL right, if THE BEAM in its ROW (as it is then) is in a"
-            + " greater COLUMN",
+    e.edge("then, if it wasn't in THE BEAM, a CELL right, if THE BEAM in its ROW (as it is then)"
+            + " is in a greater COLUMN",
         goes("mote 4 1 20", 21), goes("mote 4 1 21", 22), goes("mote 4 1 54", 55),
         goes("mote 4 1 43;warm 5", 33), goes("mote 4 1 0;hour 5", 1),
         goes("mote 4 1 22;hour 1", 23), goes("side 7;mote 4 1 65", 66), goes("mote 4 1 33", 33),

@@ -71,15 +71,18 @@ final class Edges {
     }
   }
 
-  /** A sentence with its runs, each on a new object. */
+  /**
+   * A sentence with its runs, each on a new object. The first that fails is enough: where 25 is
+   * taken for a time that may be, a later run with the greatest int would hardly end.
+   */
   void edge(String quote, String... its) {
     claim(quote);
     sentences++;
     if (its.length == 0) {
       fault("no run for: " + quote);
     }
-    for (String run : its) {
-      play(quote, run);
+    for (int i = 0; i < its.length && play(quote, its[i]); i++) {
+      runs++;
     }
   }
 
@@ -92,8 +95,7 @@ final class Edges {
     edge(quote, all);
   }
 
-  private void play(String quote, String run) {
-    runs++;
+  private boolean play(String quote, String run) {
     String problem = new Run(subject, run.trim()).problem(true);
     if (problem != null) {
       broken.add(heading + " | " + quote);
@@ -106,6 +108,7 @@ final class Edges {
         fault("the Model: " + heading + " | " + quote + " | " + run.trim() + " | " + other);
       }
     }
+    return problem == null;
   }
 
   private void claim(String quote) {
